@@ -690,10 +690,11 @@ public final class TollBars {
                     return newName(MAN, number) && word("of") && use(PLACE, PLACE)
                         && word("since") && whole(0, LAST_DAY) && keepMan(number);
                 case ROAD:
-                    return otherPlaces("to") && word("long") && whole(1, 99) && keepLink(NONE);
+                    return use(PLACE, PLACE) && word("to") && use(PLACE, PLACE) && differ()
+                        && word("long") && whole(1, 99) && keepLink(NONE);
                 case BRIDGE:
-                    return newName(BRIDGE, number) && word("by") && otherPlaces("to")
-                        && word("long") && whole(1, 99) && keepLink(number);
+                    return newName(BRIDGE, number) && word("by") && use(PLACE, PLACE) && word("to")
+                        && use(PLACE, PLACE) && differ() && word("long") && whole(1, 99) && keepLink(number);
                 default:
                     return newName(sort, number);
             }
@@ -710,8 +711,8 @@ public final class TollBars {
                         && (all() || use(GOODS, GOODS)) && choice("own trade both")
                         && span() && keepGrant(FIRST_FREE + number);
                 case AS:
-                    return newName(AS, FIRST_AS + number) && word("for") && otherPlaces("like") && tell(0)
-                        && span() && keepGrant(FIRST_AS + number);
+                    return newName(AS, FIRST_AS + number) && word("for") && use(PLACE, PLACE) && word("like")
+                        && use(PLACE, PLACE) && differ() && tell(0) && span() && keepGrant(FIRST_AS + number);
                 case RENEW:
                     return use(TAKE, FREE) && choice("same more less") && word("day")
                         && whole(0, LAST_DAY) && keepRenewal(number);
@@ -723,8 +724,8 @@ public final class TollBars {
                 default:
                     return newName(CART, number) && word("of") && use(MAN, MAN) && word("with")
                         && use(GOODS, GOODS) && choice("own trade") && word("loads") && whole(1, 99)
-                        && word("from") && otherPlaces("to") && word("day")
-                        && whole(0, LAST_DAY) && keepCart(number);
+                        && word("from") && use(PLACE, PLACE) && word("to") && use(PLACE, PLACE) && differ()
+                        && word("day") && whole(0, LAST_DAY) && keepCart(number);
             }
         }
 
@@ -863,11 +864,8 @@ public final class TollBars {
             return tell(number);
         }
 
-        /** A place, a word, and another place. */
-        private boolean otherPlaces(String between) {
-            if (!(use(PLACE, PLACE) && word(between) && use(PLACE, PLACE))) {
-                return false;
-            }
+        /** The place told last must be another one than that told ahead of it. */
+        private boolean differ() {
             return latest(0) != latest(1) || failAt(AGAIN, toldAt);
         }
 
@@ -929,7 +927,9 @@ public final class TollBars {
         void sit(int day) {
             today = day;
             for (int g = 0; g < GRANTS; g++) {
-                weigh(g);
+                if (realm.hasGrant(g)) {
+                    weigh(g);
+                }
             }
         }
 

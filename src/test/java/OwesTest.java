@@ -76,6 +76,7 @@ public final class OwesTest {
         owed(take + "renew t same day 20", older, 20, 20);
         owed("take t at x on v coin 5 day 10;renew t more day 20", older, 20, 20);
         owed("take t at x on v coin 5 day 10;renew t more day 20", older, 19, 0);
+        owed("take t at x on v coin 5 day 0;renew t more day 0", older, 0, 20);
         // The latest day's counts alone, of like days the latest line's.
         owed("take t at x on v coin 5 day 10;renew t more day 25;renew t less day 20", older, 30, 20);
         owed("take t at x on v coin 5 day 10;renew t more day 25;renew t less day 20", older, 24, 0);
@@ -216,6 +217,16 @@ public final class OwesTest {
         refuse("very many choices", q, q.sure(0, 0, 30, 0, true), 3);
     }
 
+    /** Least and most stand at choices where several spans are at their ends. */
+    private static void severalSpans() {
+        TollBars x = Check.sound(LAND + "take t at x on w coin 1 day 9 to 10;take u at x on w coin 2 day 12 to 13;"
+            + "free f for b on w own day 8;as s for a like b day 8 to 12;as z for c like d day 1;" + LAWS + CART);
+        Check.due("later, least: s of 12, u of 12", x.sure(0, 0, 30, 1, false), 0);
+        Check.due("later, most: s of 8", x.sure(0, 0, 30, 1, true), 12);
+        Check.due("older, least: s of 8", x.sure(0, 0, 30, 0, false), 0);
+        Check.due("older, most: s of 11", x.sure(0, 0, 30, 0, true), 4);
+    }
+
     private static void chains() {
         TollBars x = Check.sound("place a;place b;place c;place d;place e;as s for b like e day 3;as t for a like d day 5;"
             + "as u for a like b day 5;as v for d like c day 5;lost s copied;" + LAWS);
@@ -260,6 +271,7 @@ public final class OwesTest {
         winners();
         refusals();
         leastAndMost();
+        severalSpans();
         chains();
         Check.end("OwesTest");
     }

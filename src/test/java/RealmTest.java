@@ -81,6 +81,20 @@ public final class RealmTest {
         }
     }
 
+    /** Bytes behind n count for nothing, also inside a word or a whole. */
+    private static void cutShort() {
+        TollBars x = new TollBars();
+        Check.feed(x, "place a;place b;law l older own alike copiesx");
+        Check.due("realm cut behind copies", x.realm(44), 2);
+        Check.feed(x, "place a;place b;law l older own alike copies;road a to b long 999");
+        Check.due("realm cut inside a whole", x.realm(64), 2);
+        Check.due("size(3)", x.size(3), 1);
+        Check.feed(x, "place a;place b;law l older own alike copies");
+        Check.due("realm cut inside a word", x.realm(43), -1);
+        Check.due("fault", x.fault(), 1);
+        Check.due("where", x.where(), 38);
+    }
+
     private static void everySort() {
         TollBars x = Check.sound(BASE + "road a to b long 99;renew t same day 0;renew f more day 999;lost s;lost f copied;"
             + "law l later given named papers;cart k of m with g trade loads 99 from b to a day 0;man n of b since 0");
@@ -230,6 +244,7 @@ public final class RealmTest {
         newObject();
         tape();
         realmStaysOrComes();
+        cutShort();
         everySort();
         tokens();
         form();

@@ -124,11 +124,21 @@ public final class WaysTest {
         Check.due("saves as of a", since.saves(0, 0, 0), 4);
     }
 
+    private static void edges() {
+        TollBars x = Check.sound("place a;place b;place c;goods w;man m of a since 5;bridge x by a to b long 1;"
+            + "take t at x on w coin 2 day 0;free f for b on w own day 0;law l older own alike copies;"
+            + "cart k of m with w own loads 4 from a to b day 0;cart n of m with w own loads 1 from b to c day 0");
+        Check.due("since 0, on day 0", x.saves(0, 1, 0), 8);
+        Check.due("no way to c", x.way(1, 0), -1);
+        Check.due("no length", x.length(), -1);
+    }
+
     public static void main(String[] args) {
         cheapest();
         sameEnds();
         latestWay();
         partners();
+        edges();
         Check.end("WaysTest");
     }
 }

@@ -69,6 +69,12 @@ public final class WorthTest {
         Check.due("and moves nothing", one.moves(0, 0), 0);
         TollBars late = Check.sound(LAND + "take t at x on all coin 3 day 11 to 31;" + LAWS + CARTS);
         Check.due("most less least", late.moves(0, 0), 18);
+        TollBars mid = Check.sound(LAND + "take t at x on w coin 3 day 8 to 10;free f for a on w own day 9;"
+            + "law p older own alike copies;" + CARTS);
+        // Owed on the first of three days alone.
+        Check.due("by the first day", mid.moves(0, 0), 12);
+        TollBars last = Check.sound(LAND + "take t at x on w coin 3 day 30 to 31;" + LAWS + CARTS);
+        Check.due("by the last day", last.moves(0, 0), 12);
     }
 
     private static void renewals() {
