@@ -617,7 +617,7 @@ public final class TollBars {
     private static final class Reader {
         private final Tokens tokens;
         private final Names names = new Names();
-        // The numbers of the present line, from the left, and where the latest of them stands.
+        // The numbers of the present line, from the left, and where its latest told name stands.
         private final int[] told = new int[8];
         private int toldCount;
         private int toldAt;
