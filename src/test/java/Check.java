@@ -5,6 +5,8 @@ import java.util.Arrays;
 final class Check {
     private static int asked = 0;
     private static int wrong = 0;
+    /** The sentence of the document that the answers hold to, told ahead of a wrong one. */
+    static String heading = "";
 
     private Check() {
     }
@@ -13,7 +15,7 @@ final class Check {
         asked++;
         if (got != want) {
             wrong++;
-            System.out.println(call + " answered " + got + ", due is " + want);
+            System.out.println((heading.isEmpty() ? "" : heading + ": ") + call + " answered " + got + ", due is " + want);
         }
     }
 
