@@ -13,6 +13,7 @@ final class OweEdges {
         spans();
         inForce();
         lost();
+        everyLaw();
         renewalDays();
         severalRenewals();
         howRenewed();
@@ -82,6 +83,26 @@ final class OweEdges {
             Check.due("ahead of its day" + lines[i], x.force(0, 9, 0), 0);
             Check.due("owes by copies" + lines[i], x.owes(0, 0, 10, 0), 12 * want[i][0]);
             Check.due("owes by papers" + lines[i], x.owes(0, 0, 10, 1), 12 * want[i][1]);
+        }
+    }
+
+    /** What a law's other words are is nothing to its copies. */
+    private static void everyLaw() {
+        Sentence.term(1, "law NAME WHO FROM WHAT PROOF (older, or later; own, or given; named, or alike; copies, or papers)");
+        for (int i = 0; i < 16; i++) {
+            String words = (i & 1) == 0 ? "older" : "later";
+            words += (i & 2) == 0 ? " own" : " given";
+            words += (i & 4) == 0 ? " named" : " alike";
+            words += (i & 8) == 0 ? " copies" : " papers";
+            TollBars x = bars("take t at x on w coin 3 day 10;lost t copied;take u at x on w coin 1 day 10;free f for b on w own "
+                + "day 9;as s for a like b day 11;lost s", words);
+            Check.due("a copied one by " + words, x.force(0, 10, 0), (i & 8) == 0 ? 1 : 0);
+            Check.due("one that isn't lost by " + words, x.force(1, 10, 0), 1);
+            Check.due("one that is lost by " + words, x.force(12, 30, 0), 0);
+            Check.due("find t and s", x.find(0) && x.find(12), true);
+            // f of 9 by an as of 11: by given its own day counts, by own that of the as.
+            boolean wins = (i & 1) == ((i & 2) == 0 ? 1 : 0);
+            Check.due("owes by " + words, x.owes(0, 0, 30, 0), wins ? 0 : 16);
         }
     }
 
@@ -252,6 +273,15 @@ final class OweEdges {
             }
             owes("take t at x on " + goods[g] + " coin 3 day 10", OLDER, 30, g == 1 ? 0 : 12);
         }
+        for (int g = 0; g < 3; g++) {
+            for (int u = 0; u < 3; u++) {
+                TollBars x = Check.sound(LAND + "take t at x on v coin 3 day 10;take u at x on w coin 1 day 10;free f for a on "
+                    + goods[g] + " " + uses[u] + " day 1;law l older own alike copies;"
+                    + "cart k of m with v trade loads 4 from a to b day 30");
+                Check.due("other goods, for trade, free on " + goods[g] + " " + uses[u], x.owes(0, 0, 30, 0),
+                    g != 0 && u != 0 ? 0 : 12);
+            }
+        }
     }
 
     private static void namedLaws() {
@@ -313,6 +343,12 @@ final class OweEdges {
         Check.due("judge", x.judge(0, 0, 999, 0, 58806), 1);
         Check.due("most", x.sure(0, 0, 999, 0, true), 58806);
         Check.due("least", x.sure(0, 0, 999, 0, false), 58806);
+        Sentence.term(2, "OWES of a cart at a bridge on a day");
+        // A free of the bridge's number stands next behind six takes and is none.
+        TollBars full = Check.sound(takes + "free f for a on all both day 0;free h for b on all both day 0;man n of b since 999;"
+            + "law l older own alike copies;cart k of n with g own loads 99 from a to b day 0");
+        Check.due("six takes and frees behind them", full.owes(0, 0, 998, 0), 9801);
+        Check.due("at the other bridge", full.owes(0, 1, 998, 0), 0);
         Sentence.term(2, "coin times loads of each take IN FORCE there, on its goods or all, against which none of the man's "
             + "FREEDOMS WINS");
         owes("take t at x on w coin 1 day 10;take u at x on all coin 10 day 12;take z at x on v coin 20 day 1;"
@@ -335,8 +371,8 @@ final class OweEdges {
     private static void choices() {
         Sentence.term(3, "OWES over all DAYS of spans of all takes, frees and as (if there are no more than 2,000 choices)");
         int[][] spans = {{20, 20, 5, 1}, {5, 20, 20, 1}, {2, 10, 10, 10}, {2, 7, 11, 13}, {1, 1, 1, 1}, {21, 19, 5, 1},
-            {20, 20, 1, 6}, {21, 12, 8, 1}, {21, 21, 21, 21}};
-        boolean[] allowed = {true, true, true, false, true, true, false, false, false};
+            {20, 20, 1, 6}, {21, 12, 8, 1}, {21, 21, 21, 21}, {5, 20, 20, 2}};
+        boolean[] allowed = {true, true, true, false, true, true, false, false, false, false};
         for (int i = 0; i < spans.length; i++) {
             int[] s = spans[i];
             TollBars x = bars("take t at x on w coin 3 day 10 to " + (9 + s[0]) + ";free f for a on v own day 10 to "
@@ -348,6 +384,12 @@ final class OweEdges {
             // Ahead of the take's last day it isn't in force by that choice.
             Check.due("least of " + of, x.sure(0, 0, 8 + s[0], 0, false), !allowed[i] ? -1 : 0);
         }
+        // 20 times 20 times 5: only by the very last choice is no take in force on day 18.
+        TollBars last = bars("take t at x on w coin 1 day 0 to 19;take u at x on w coin 1 day 0 to 19;"
+            + "take z at x on w coin 1 day 15 to 19", OLDER);
+        Check.due("least by the last of 2,000 choices", last.sure(0, 0, 18, 0, false), 0);
+        Check.due("most by the first of them", last.sure(0, 0, 15, 0, true), 12);
+        Check.due("least on 19", last.sure(0, 0, 19, 0, false), 12);
         // Sixteen spans of 21 days: far more than an int can count.
         StringBuilder text = new StringBuilder(LAND);
         for (char c = 'a'; c < 'g'; c++) {

@@ -22,6 +22,7 @@ final class TapeEdges {
         howManyPlaces();
         realmStays();
         nothingOfTheOldOne();
+        fewerThanBefore();
         latestFault();
         whereTheFaultIs();
         sizes();
@@ -257,6 +258,106 @@ final class TapeEdges {
         Check.due("no grant is left", x.grant(0, 0), -1);
         Check.due("no cart is left", x.cart(0, 0), -1);
         Check.due("no coin", x.coin(0), 0);
+        noDaysOfTheOldOne();
+    }
+
+    /** Days of grants that the third realm hasn't may not be counted among its choices. */
+    private static void noDaysOfTheOldOne() {
+        String land = TWO + "goods g;man m of a since 0;bridge x by a to b long 1;" + LAW
+            + ";cart k of m with g own loads 1 from a to b day 30;";
+        TollBars x = Check.sound(land + "as p for a like b day 5;free f for a on g own day 9 to 29;take t at x on g coin 1 day 1");
+        Check.due("the second realm", Check.realm(x, TWO + LAW), 2);
+        Check.due("the third realm", Check.realm(x, land + "take t at x on g coin 1 day 0 to 20;take u at x on g coin 1 day 0 to 20;"
+            + "take v at x on g coin 1 day 0 to 20"), 2);
+        refused("9,261 choices", x, x.sure(0, 0, 30, 0, true), -1, 3);
+        Check.due("a take's day is known", x.date(2, 30), true);
+        Check.due("441 choices", x.sure(0, 0, 30, 0, true), 3);
+        Check.due("hangs", x.hangs(0), 0);
+    }
+
+    /** A small realm behind two great ones answers every call as it does on a new object. */
+    private static void fewerThanBefore() {
+        Sentence.promise(3, "are the REALM from now on");
+        String great = "place a;place b;place c;goods g;goods h;bridge x by a to b long 2;bridge y by a to b long 1;road b to c long 9;"
+            + "road a to c long 1;man m of a since 0;man n of b since 0;take t at x on all coin 3 day 0 to 9;"
+            + "take u at x on g coin 9 day 0 to 9;take v at y on g coin 9 day 0;free f for b on all both day 0 to 9;"
+            + "free w for a on all both day 0;as s for b like a day 0 to 9;as r for a like b day 0;renew t more day 0;"
+            + "renew f less day 1;law l older own alike copies;law o later given named papers;"
+            + "cart k of m with g own loads 9 from a to b day 9;cart q of n with h own loads 9 from b to c day 9";
+        String[] small = {
+            TWO + LAW,
+            TWO + "goods g;man m of a since 0;" + LAW + ";cart k of m with g own loads 1 from a to b day 9",
+            TWO + "goods g;man m of a since 0;bridge x by a to b long 2;take t at x on g coin 1 day 5;" + LAW
+                + ";cart k of m with g own loads 1 from a to b day 9",
+            TWO + "goods g;man m of a since 0;bridge x by a to b long 2;take t at x on g coin 1 day 5 to 8;"
+                + "free f for b on g own day 4;" + LAW + ";cart k of m with g own loads 1 from a to b day 9",
+            TWO + "goods g;man m of a since 0;bridge x by a to b long 2;take t at x on g coin 1 day 5;"
+                + "free f for b on g own day 4;as s for a like b day 7;" + LAW
+                + ";cart k of m with g own loads 1 from a to b day 9"};
+        for (String text : small) {
+            for (int law = -1; law < 3; law++) {
+                for (int number = -1; number < 17; number++) {
+                    TollBars used = afterTwo(great);
+                    Check.due("a small realm", Check.realm(used, text), 2);
+                    int[] got = answers(used, number, law);
+                    int[] want = answers(Check.sound(text), number, law);
+                    for (int i = 0; i < want.length; i++) {
+                        Check.due("answer " + i + " of " + number + " by " + law + " in '" + text + "'", got[i], want[i]);
+                    }
+                }
+            }
+        }
+    }
+
+    /** An object with two great realms behind it, so that both of its rooms have been used. */
+    private static TollBars afterTwo(String great) {
+        TollBars used = new TollBars();
+        for (int i = 0; i < 2; i++) {
+            Check.due("a great realm", Check.realm(used, great), 3);
+            Check.due("its coin", used.coin(0) >= 0, true);
+            Check.due("its way", used.way(1, 1) >= 0, true);
+            Check.due("its losses", used.lose(1, false) && used.lose(13, true), true);
+            Check.due("its chain", used.chain(0, 9, 0, 0), 1);
+        }
+        return used;
+    }
+
+    /** What all calls that look answer of a number and a law, and their troubles. */
+    private static int[] answers(TollBars x, int number, int law) {
+        int[] answers = new int[200];
+        int n = 0;
+        for (int other = -1; other < 3; other++) {
+            for (int day = 0; day < 12; day += 3) {
+                answers[n++] = x.owes(number, other, day, law);
+                answers[n++] = x.wins(number, other, day, law);
+                answers[n++] = x.sure(number, other, day, law, true);
+                answers[n++] = x.sure(number, other, day, law, false);
+                answers[n++] = x.trouble();
+                answers[n++] = x.chain(number, day, law, other);
+            }
+            answers[n++] = x.saves(number, other, law);
+            answers[n++] = x.part(law, other);
+        }
+        answers[n++] = x.partner(number, law);
+        answers[n++] = x.ring(number, 9, law);
+        answers[n++] = x.way(number, law);
+        answers[n++] = x.trouble();
+        answers[n++] = x.length();
+        for (int i = 0; i < 7; i++) {
+            answers[n++] = x.stop(i);
+            answers[n++] = Check.led(x, i);
+            answers[n++] = x.cart(number, i);
+            answers[n++] = x.grant(number, i);
+        }
+        answers[n++] = x.worth(number, law);
+        answers[n++] = x.moves(number, law);
+        answers[n++] = x.brings(number, 1, 5, law);
+        answers[n++] = x.force(number, 5, law);
+        answers[n++] = x.coin(law);
+        answers[n++] = x.hangs(law);
+        answers[n++] = x.trouble();
+        answers[n++] = x.size(number);
+        return answers;
     }
 
     private static void latestFault() {

@@ -12,6 +12,8 @@ final class WayEdges {
 
     static void all() {
         longest();
+        toldFromTheFarEnd();
+        allRoadsAndBridges();
         bothWays();
         onItsDay();
         dearest();
@@ -24,6 +26,7 @@ final class WayEdges {
         lengths();
         led();
         partners();
+        sixMen();
         partnersSince();
         savings();
     }
@@ -63,6 +66,44 @@ final class WayEdges {
         // The longest way without toll is cheaper than the shortest with one coin.
         way(row("road ") + ";bridge x by a to h long 1;take t at x on w coin 1 day 0", 0, 693, "abcdefgh");
         way("road a to h long 1", 0, 1, "ah");
+    }
+
+    /** In whichever order and direction roads are told, the way is the same. */
+    private static void toldFromTheFarEnd() {
+        Sentence.term(2, "by roads and bridges (both ways; on its day)");
+        StringBuilder near = new StringBuilder();
+        StringBuilder far = new StringBuilder();
+        StringBuilder farTurned = new StringBuilder();
+        for (char c = 'a'; c < 'h'; c++) {
+            char next = (char) (c + 1);
+            near.append(";road " + next + " to " + c + " long 3");
+            far.insert(0, ";road " + c + " to " + next + " long 3");
+            farTurned.insert(0, ";road " + next + " to " + c + " long 3");
+        }
+        way(near.substring(1), 0, 21, "abcdefgh");
+        way(far.substring(1), 0, 21, "abcdefgh");
+        way(farTurned.substring(1), 0, 21, "abcdefgh");
+        way(near.substring(1) + ";road b to h long 99;road a to h long 22", 0, 21, "abcdefgh");
+        way(far.substring(1) + ";road b to h long 99;road a to h long 20", 0, 20, "ah");
+    }
+
+    /** Twelve roads and eight bridges: the last line's leads there, and nothing else does. */
+    private static void allRoadsAndBridges() {
+        Sentence.term(1, "12 roads, 8 bridges");
+        StringBuilder roads = new StringBuilder();
+        StringBuilder bridges = new StringBuilder();
+        for (int i = 0; i < 11; i++) {
+            roads.append("road a to b long 9;");
+        }
+        for (int i = 0; i < 7; i++) {
+            bridges.append("bridge x" + (char) ('a' + i) + " by a to b long 9;");
+        }
+        way(roads + "road b to c long 2;" + bridges + "bridge z by b to h long 3", 0, 12, "abh", 7);
+        way(bridges + "bridge z by b to c long 3;" + roads + "road a to h long 2", 0, 2, "ah");
+        TollBars x = Check.sound(EIGHT + bridges + "bridge z by b to h long 3;" + roads + "road b to c long 2;" + END);
+        Check.due("roads", x.size(3), 12);
+        Check.due("bridges", x.size(4), 8);
+        isWay(x, "all roads and bridges", 0, 12, "abh", 0, 7);
     }
 
     private static void bothWays() {
@@ -257,6 +298,8 @@ final class WayEdges {
             Check.due("lose c's", x.lose(7, false), true);
             Check.due("all owe alike: its own", x.partner(0, 0), own);
             Check.due("trouble()", x.trouble(), 0);
+            Check.due("find a's", x.find(8), true);
+            Check.due("a's man alone", x.partner(0, 0), 0);
         }
         // Another way in another's name: x costs him nothing, y costs the owner least.
         Sentence.term(3, "the man in whose name (his PLACE and since) a cart OWES least on its CHEAPEST WAY");
@@ -266,6 +309,30 @@ final class WayEdges {
         Check.due("the owner's way", y.way(0, 0), 3);
         Check.due("partner", y.partner(0, 0), 1);
         Check.due("saves", y.saves(0, 1, 0), 3);
+    }
+
+    /** Of as many men as there is room for each may be the partner. */
+    private static void sixMen() {
+        Sentence.promise(16, "PARTNER: the man.");
+        String[] places = {"a", "b", "c", "d", "e", "f"};
+        for (int free = 0; free < 6; free++) {
+            StringBuilder text = new StringBuilder("goods w;law l older own alike copies");
+            for (int i = 0; i < 6; i++) {
+                text.append(";place " + places[i] + ";man m" + places[i] + " of " + places[i] + " since 0");
+            }
+            text.append(";bridge x by a to b long 1;take t at x on w coin 2 day 10;free z for " + places[free] + " on w own day 9");
+            for (int own = 0; own < 6; own++) {
+                text.append(";cart k" + places[own] + " of m" + places[own] + " with w own loads 1 from a to b day 30");
+            }
+            TollBars x = Check.sound(text.toString());
+            for (int own = 0; own < 6; own++) {
+                Check.due("partner of " + own, x.partner(own, 0), free);
+            }
+            Check.due("lose the free", x.lose(6, false), true);
+            for (int own = 0; own < 6; own++) {
+                Check.due("partner of " + own + " where none is free", x.partner(own, 0), own);
+            }
+        }
     }
 
     private static void partnersSince() {
