@@ -34,7 +34,10 @@ final class Sentence {
     private static void holds(String where, String section, String words) {
         spoken.add(where);
         Check.heading = where + " (\"" + words + "\")";
-        Check.due("these words stand in the document", plain(section).contains(plain(words)), true);
+        // Without the document at hand the answers are looked at all the same.
+        if (!document().isEmpty()) {
+            Check.due("these words stand in the document", plain(section).contains(plain(words)), true);
+        }
     }
 
     private static String plain(String text) {
@@ -53,6 +56,7 @@ final class Sentence {
             try {
                 document = Files.readString(DOCUMENT);
             } catch (IOException missing) {
+                System.out.println(DOCUMENT + " isn't here: the words of sentences aren't looked up");
                 document = "";
             }
         }
