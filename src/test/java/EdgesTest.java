@@ -8,6 +8,8 @@ public final class EdgesTest {
         WayEdges.all();
         WorthEdges.all();
         PaperEdges.all();
+        Sentence.constant("`NONE = -1`: There is none; refused.");
+        Check.due("NONE", TollBars.NONE, -1);
         Sentence.allSpoken();
         Check.end("EdgesTest");
     }

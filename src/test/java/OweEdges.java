@@ -146,6 +146,9 @@ final class OweEdges {
             owes("take t at x on w coin " + coins[i] + " day 0;renew t more day 9", OLDER, 9, 4 * coins[i]);
             owes("take t at x on v coin " + coins[i] + " day 0;renew t more day 9", OLDER, 9, 4 * coins[i]);
         }
+        Sentence.term(2, "same: neither");
+        owes("take t at x on w coin 3 day 10;free f for a on w own day 3;renew f same day 9", OLDER, 30, 0);
+        owes("take t at x on v coin 3 day 10;renew t same day 10", OLDER, 30, 0);
         Sentence.term(2, "more: a take is on all, a free on all and both");
         String take = "take t at x on w coin 3 day 10;";
         owes(take + "free f for a on v trade day 3;renew f more day 9", OLDER, 30, 0);
@@ -197,6 +200,16 @@ final class OweEdges {
     }
 
     private static void fewestAs() {
+        Sentence.term(2, "frees IN FORCE of his PLACE; and of each PLACE that is reached from it by as IN FORCE, each from the PLACE it "
+            + "is for to the one it is like");
+        String one = "take t at x on w coin 3 day 10;free f for b on w own day 1;as s for a like b day 9";
+        owes(one, OLDER, 30, 0);
+        owes(one.replace("a like b", "b like a"), OLDER, 30, 12);
+        owes(one + ";lost s", OLDER, 30, 12);
+        owes(one + ";lost f", OLDER, 30, 12);
+        owes(one.replace("day 9", "day 31"), "older given alike copies", 30, 12);
+        owes(one.replace("day 9", "day 31"), "older given alike copies", 31, 0);
+        owes(one.replace("own day 1;", "own day 10 to 12;"), OLDER, 30, 0);
         Sentence.term(2, "each PLACE reached once: of fewest as; of like ones by the as of least numbers, from his own PLACE on");
         String lines = "take t at x on w coin 3 day 10;free f for d on w own day 1;";
         // Two as of days that don't lose against one that does: one is fewest.

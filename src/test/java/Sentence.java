@@ -27,6 +27,10 @@ final class Sentence {
         holds("Terms " + TERMS[number - 1].trim(), section("\n" + TERMS[number - 1], end), words);
     }
 
+    static void constant(String words) {
+        holds("The constants", section("\nThe constants", "\n\n"), words);
+    }
+
     static void preamble(String words) {
         holds("What it is", section("## What it is", "\n## "), words);
     }

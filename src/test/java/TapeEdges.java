@@ -425,6 +425,19 @@ final class TapeEdges {
         for (int what : others) {
             Check.due("size(" + what + ")", x.size(what), -1);
         }
+        Sentence.promise(30, "0 places, 1 goods, 2 men, 3 roads, 4 bridges, 5 takes, 6 frees, 7 as, 8 renewals, 9 laws, 10 carts, "
+            + "11 bytes of THE TAPE");
+        // As many of each sort as no other has, as far as their rooms allow.
+        TollBars many = Check.sound("place a;place b;place c;place d;place e;goods g;goods h;goods i;man m of a since 0;"
+            + "road a to b long 1;road a to b long 1;road a to b long 1;road a to b long 1;bridge x by a to b long 1;"
+            + "bridge y by a to b long 1;take t at x on g coin 1 day 1;take u at x on g coin 1 day 1;take v at x on g coin 1 day 1;"
+            + "free f for a on g own day 1;as s for a like b day 1;as r for a like b day 1;renew t same day 1;renew t same day 1;"
+            + "renew t same day 1;renew t same day 1;lost t;" + LAW + ";law n older own alike copies;"
+            + "cart k of m with g own loads 1 from a to b day 1");
+        int[] each = {5, 3, 1, 4, 2, 3, 1, 2, 4, 2, 1, 0};
+        for (int what = 0; what < each.length; what++) {
+            Check.due("size(" + what + ")", many.size(what), each[what]);
+        }
         Sentence.promise(30, "11 bytes of THE TAPE");
         x.feed(0, 0, 0, 0, 0);
         Check.due("size(11)", x.size(11), 20);

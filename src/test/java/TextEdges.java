@@ -26,6 +26,36 @@ final class TextEdges {
         "lost s/TFA", "lost t/TFA copied", "law + later given named papers",
         "cart + of m/M with g/G own loads #1-99 from a/P to b/P= day #0-999",
         "cart + of m/M with g/G trade loads 9 from b/P to a/P= day 3"};
+    /** The document's own words for a line, by the first word of it. */
+    private static String grammar(String line) {
+        switch (tokens(line)[0]) {
+            case "man":
+                return "man NAME of PLACE since WHOLE (0 .. 999)";
+            case "road":
+                return "road PLACE to PLACE long WHOLE, or bridge NAME by PLACE to PLACE long WHOLE (1 .. 99; the second PLACE "
+                    + "another one)";
+            case "bridge":
+                return "bridge NAME by PLACE to PLACE long WHOLE (1 .. 99; the second PLACE another one)";
+            case "take":
+                return "take NAME at BRIDGE on GOOD coin WHOLE DAY (1 .. 99)";
+            case "free":
+                return "free NAME for PLACE on GOOD USE DAY";
+            case "as":
+                return "as NAME for PLACE like PLACE DAY (another one)";
+            case "renew":
+                return "renew NAME HOW day WHOLE (a take's, a free's; HOW: same, more, or less; 0 .. 999)";
+            case "lost":
+                return "lost NAME (a take's, a free's, an as's), behind it perhaps copied";
+            case "law":
+                return "law NAME WHO FROM WHAT PROOF";
+            case "cart":
+                return "cart NAME of MAN with GOODS FOR loads WHOLE from PLACE to PLACE day WHOLE (FOR: own, or trade; 1 .. 99; "
+                    + "another PLACE; 0 .. 999)";
+            default:
+                return "place NAME, or goods NAME";
+        }
+    }
+
     private static final String TOLD = "abgxmtfslk";
     private static final String TOLD_SORTS = "PPGBMTFALC";
 
@@ -43,6 +73,9 @@ final class TextEdges {
         toldNames();
         otherPlace();
         wholes();
+        days();
+        choicesOfWords();
+        keptAsTold();
         lostAgain();
         rooms();
         lacks();
@@ -155,6 +188,11 @@ final class TextEdges {
     }
 
     private static void semicolons() {
+        Sentence.term(1, "single ones of ;");
+        isSound("place a;place b ; law l older own alike copies");
+        isSound("place a ;place b; " + LAW);
+        Check.faulty("place a;;place b", 1, 8);
+        Check.faulty("place a; ;place b", 1, 9);
         Sentence.term(1, "LINE {; LINE}");
         Check.faulty(";", 1, 0);
         Check.faulty(";" + TWO + LAW, 1, 0);
@@ -275,11 +313,13 @@ final class TextEdges {
     }
 
     private static void otherPlace() {
-        Sentence.term(1, "a PLACE that must be another one and isn't");
         for (String line : LINES) {
             String[] tokens = tokens(line);
             for (int i = 0; i < tokens.length; i++) {
                 if (tokens[i].endsWith("=")) {
+                    Sentence.term(1, grammar(line));
+                    isSound(with(line, i, sound(tokens[i])));
+                    Sentence.term(1, "a PLACE that must be another one and isn't");
                     Check.faulty(with(line, i, sound(tokens[i - 2])), 3, place(line, i));
                     Check.faulty(upTo(line, i, sound(tokens[i - 2])), 3, place(line, i));
                 }
@@ -301,9 +341,11 @@ final class TextEdges {
     }
 
     private static void bounds(String line, int index, int low, int high) {
-        Sentence.term(1, "4 a WHOLE out of bounds; at it");
+        boolean isDay = tokens(line)[index - 1].equals("to");
+        Sentence.term(1, isDay ? "the latter not below the former, up to 20 above it, 999 at most" : grammar(line));
         isSound(with(line, index, "" + low));
         isSound(with(line, index, "" + high));
+        Sentence.term(1, "4 a WHOLE out of bounds; at it");
         int at = place(line, index);
         if (low > 0) {
             Check.faulty(with(line, index, "" + (low - 1)), 4, at);
@@ -315,6 +357,73 @@ final class TextEdges {
             Check.faulty(with(line, index, "999"), 4, at);
         }
         Check.faulty(with(line, index, "1000"), 1, at);
+    }
+
+    /** Days of each sort of grant, at every span's edge that the sentence names. */
+    private static void days() {
+        Sentence.term(1, "DAY: day WHOLE, or day WHOLE to WHOLE (0 .. 999; the latter not below the former, up to 20 above it, 999 at "
+            + "most: any DAY from one to the other)");
+        String[] grants = {"take q at x on all coin 1 ", "free q for a on all own ", "as q for a like b "};
+        int[] numbers = {1, 7, 13};
+        int[][] sound = {{0, 0}, {0, 1}, {0, 20}, {7, 7}, {7, 27}, {500, 520}, {979, 999}, {980, 999}, {998, 999}, {999, 999}};
+        int[][] wrong = {{0, 21}, {1, 0}, {7, 6}, {7, 28}, {7, 0}, {0, 999}, {978, 999}, {999, 998}, {999, 0}};
+        for (int i = 0; i < grants.length; i++) {
+            for (int[] s : sound) {
+                TollBars x = Check.sound(BASE + grants[i] + "day " + s[0] + " to " + s[1]);
+                Check.due("first of " + s[0] + " to " + s[1], x.grant(numbers[i], 0), s[0]);
+                Check.due("last of " + s[0] + " to " + s[1], x.grant(numbers[i], 1), s[1]);
+                TollBars one = Check.sound(BASE + grants[i] + "day " + s[1]);
+                Check.due("first of " + s[1], one.grant(numbers[i], 0), s[1]);
+                Check.due("last of " + s[1], one.grant(numbers[i], 1), s[1]);
+            }
+            for (int[] w : wrong) {
+                String start = BASE + grants[i] + "day " + w[0] + " to ";
+                Check.faulty(start + w[1], 4, start.length());
+            }
+            String start = BASE + grants[i] + "day 990 to ";
+            Check.faulty(start + "1000", 1, start.length());
+            Check.faulty(BASE + grants[i] + "day 1 to 2 to 3", 1, (BASE + grants[i] + "day 1 to 2 ").length());
+        }
+    }
+
+    private static void choicesOfWords() {
+        Sentence.term(1, "GOOD: a NAME of goods, or all.");
+        isSound(BASE + "take q at x on g coin 1 day 1;take r at x on all coin 1 day 1;free u for a on g own day 1;"
+            + "free v for a on all own day 1");
+        Check.faulty(BASE + "take q at x on x coin 1 day 1", 2, BASE.length() + 15);
+        Check.faulty(BASE + "free u for a on to own day 1", 1, BASE.length() + 16);
+        Sentence.term(1, "USE: own, trade, or both.");
+        TollBars x = Check.sound(BASE + "free q for a on g own day 1;free r for a on g trade day 1;free u for a on g both day 1");
+        for (int use = 0; use < 3; use++) {
+            Check.due("use " + use, x.grant(7 + use, 5), use);
+        }
+        Check.faulty(BASE + "free q for a on g same day 1", 1, BASE.length() + 18);
+        Check.faulty(BASE + "free q for a on g day 1", 1, BASE.length() + 18);
+        Sentence.term(1, "HOW: same, more, or less");
+        isSound(BASE + "renew t same day 1;renew f more day 1;renew t less day 1");
+        Check.faulty(BASE + "renew t both day 1", 1, BASE.length() + 8);
+        Check.faulty(BASE + "renew t day 1", 1, BASE.length() + 8);
+        Check.faulty(BASE + "renew s same day 1", 2, BASE.length() + 6);
+        Sentence.term(1, "FOR: own, or trade");
+        Check.faulty(BASE + "cart q of m with g both loads 1", 1, BASE.length() + 19);
+    }
+
+    /** The least and the greatest that a line may tell come back as they were told. */
+    private static void keptAsTold() {
+        Sentence.term(1, "take NAME at BRIDGE on GOOD coin WHOLE DAY (1 .. 99)");
+        TollBars x = Check.sound(BASE + "take q at x on g coin 1 day 0;take r at x on g coin 99 day 999");
+        Check.due("coin 1", x.grant(1, 5), 1);
+        Check.due("coin 99", x.grant(2, 5), 99);
+        Check.due("day 999", x.grant(2, 0), 999);
+        Sentence.term(1, "FOR: own, or trade; 1 .. 99; another PLACE; 0 .. 999");
+        TollBars y = Check.sound(BASE + "cart q of m with g own loads 1 from b to a day 0;cart r of m with g trade loads 99 from a to b "
+            + "day 999");
+        int[][] rows = {{0, 0, 0, 1, 1, 0, 0}, {0, 0, 1, 99, 0, 1, 999}};
+        for (int c = 0; c < 2; c++) {
+            for (int what = 0; what < 7; what++) {
+                Check.due("cart(" + (1 + c) + ", " + what + ")", y.cart(1 + c, what), rows[c][what]);
+            }
+        }
     }
 
     private static void lostAgain() {

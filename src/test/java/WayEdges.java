@@ -274,6 +274,7 @@ final class WayEdges {
             Check.due("led(" + i + ") ahead of a way", Check.led(x, i), -7);
         }
         Check.due("way", x.way(0, 0), 0);
+        Sentence.promise(29, "The i-th bridge of the latest WAY. NoSuchElementException if there is none such.");
         for (int i : all) {
             Check.due("led(" + i + ")", Check.led(x, i), i == 0 ? 1 : i == 1 ? 0 : -7);
         }
